@@ -1242,7 +1242,7 @@ public final class EldestAge {
                 token = NAME;
                 return true;
             }
-            return nextNumber();
+            return nextNumber() || fail(NO_TOKEN, start);
         }
 
         private boolean nextNumber() {
@@ -1253,10 +1253,7 @@ public final class EldestAge {
                 }
                 place++;
             }
-            if (place == start || place - start > MOST_FIGURES) {
-                return fail(NO_TOKEN, start);
-            }
-            return true;
+            return place > start && place - start <= MOST_FIGURES;
         }
 
         private static boolean isLetter(int b) {

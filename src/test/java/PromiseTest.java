@@ -99,6 +99,29 @@ public final class PromiseTest {
         Check.feed(x, "law mean;$");
         due("p3 cut", x.end(9), 10);
         due("p4 what was cut is not read", x.street(), 1);
+        // What was cut lies there no more, though it would make the last token longer.
+        Check.feed(x, "law sum;one");
+        x.end(6);
+        due("p3 a NAME that was cut", x.street(), -14);
+        Check.feed(x, "houses 8888;");
+        x.end(8);
+        x.feed(0x3b20202020202020L);
+        due("p3 a NUMBER that was cut", x.street(), 1);
+        due("p3 houses", x.rule(0), 8);
+        Check.feed(x, "houses 8888;");
+        x.end(8);
+        due("p3 a NUMBER at the end", x.street(), -18);
+        due("p5 the end", x.fault(), 2);
+        // A full tape that ends in the midst of a NAME, of a NUMBER, in blanks, whole.
+        String blanks = " ".repeat(392);
+        String[] ends = {"law  sum", "houses 8", "law     ", "law sum;"};
+        int[] due = {-410, -410, -410, 1};
+        for (int i = 0; i < 4; i++) {
+            Check.feed(x, blanks + ends[i]);
+            due("p2 full " + i, x.count(3), 400);
+            due("p4 full " + i, x.street(), due[i]);
+            due("p5 full " + i, x.fault(), i < 3 ? 2 : 0);
+        }
     }
 
     private static void taken(String text, int lines) {
@@ -124,6 +147,8 @@ public final class PromiseTest {
         taken("one aunt 1 1 1;move 1 1 0 1;move 1 1 0 1;move 1 1 0 1;move 1 1 0 1;move 1 1 0 1;move 1 1 0 1;"
             + "move 1 1 0 1;move 1 1 0 1;move 1 1 0 1;move 1 1 0 1;move 1 1 0 1;move 1 1 0 1;", 13);
         taken("expect 0 1 1 1 1;expect 0 1 1 1 1;expect 0 1 1 1 1;expect 0 1 1 1 1;", 4);
+        taken("houses 8;one lodger 0 0 7;one aunt 1 1 1;one aunt 1 1 1;one aunt 1 1 1;one aunt 1 1 1;one aunt 1 1 1;"
+            + "one aunt 1 1 1;one aunt 1 1 1;one aunt 1 1 1;one aunt 1 1 1;move 0 0 9 7;expect 7 0 0 0 0;", 13);
         String[] laws = {"eldest", "youngest", "sum", "mean"};
         for (int i = 0; i < 4; i++) {
             due("p6 law " + laws[i], Check.told("law " + laws[i] + ";").rule(1), i);
@@ -154,6 +179,23 @@ public final class PromiseTest {
         faulty("houses 0004;", 1, 7);
         faulty("houses 4,", 1, 8);
         faulty("houses -4;", 1, 7);
+        // The neighbours of a, z, 0, 9 are no letters, no figures.
+        faulty("a", 2, 0);
+        faulty("z", 2, 0);
+        faulty("`", 1, 0);
+        faulty("{", 1, 0);
+        faulty("/", 1, 0);
+        faulty(":", 1, 0);
+        faulty("0", 2, 0);
+        faulty("9", 2, 0);
+        faulty("law 1234;", 1, 4);
+        faulty("one 1234;", 1, 4);
+        faulty("one plain 1234 1 1;", 1, 10);
+        faulty("one plain 1 1234 1;", 1, 12);
+        faulty("one plain 1 1 1234;", 1, 14);
+        faulty("one plain 1 1 1 1234;", 1, 16);
+        faulty("one plain 1 1 1 died 1234 1;", 1, 21);
+        faulty("move 1 1 1 1 1234;", 1, 13);
         faulty(";", 2, 0);
         faulty("4", 2, 0);
         faulty("law sum;;", 2, 8);
@@ -280,6 +322,21 @@ public final class PromiseTest {
         due("p4 house 2", x.number(2, 0), BAD);
         x.street();
         due("p4 houses as at first", x.rule(0), 4);
+        // Nobody of an earlier text is about, however many they were.
+        Check.feed(x, "law sum;one aunt 1 1 1;one aunt 1 1 1;one aunt 1 1 1;one aunt 1 1 1;one aunt 1 1 1;one aunt 1 1 1;"
+            + "move 2 2 5 0;move 2 2 5 0;expect 0 1 1 1 1;");
+        x.street();
+        due("p4 six", x.later(1, Check.day(1, 1), 1, 0), 6);
+        Check.feed(x, "one plain 1 0 0;");
+        x.street();
+        int day = Check.day(30, 0);
+        due("p4 no aunts", x.fetch(day, true, 0), 0);
+        due("p4 his years alone", x.all(day, 2), 29);
+        due("p4 he alone", x.later(1, 360, 1, 0), 1);
+        due("p4 no births", x.can(0, day, 1), 29);
+        due("p4 nobody else", x.at(-1, day), 14);
+        x.bear(1, 0, 3);
+        due("p4 no move of the one who was", x.lives(1, LAST), 3);
     }
 
     private static void asked() {
@@ -696,6 +753,9 @@ public final class PromiseTest {
     }
 
     private static void fetchingRefused() {
+        EldestAge first = Check.told("one aunt 1 0 0;one aunt 1 0 0;one aunt 1 0 0;one aunt 1 0 0;one aunt 1 0 0 died 9 0;");
+        due("p27 five from 0 on", first.fetch(Check.day(8, 0), false, 0), STATE);
+        due("p27 four from 0 on", first.fetch(Check.day(9, 0), false, 0), 0);
         EldestAge x = Check.told("one plain 1 0 0;one aunt 10 0 0;one aunt 10 0 0;one aunt 10 0 0 died 20 0;one aunt 10 0 0;one aunt 11 0 0;");
         int four = Check.day(10, 0);
         int five = Check.day(11, 0);
@@ -779,6 +839,12 @@ public final class PromiseTest {
         canBe(z, 0, day, (5 + 25 + 0) / 3, 35 / 2, 0);
         z.law(2);
         canBe(z, 0, day, 30, 5 + 30 + 2, 0);
+        // Births of another house ahead of those asked about are not mixed with them.
+        EldestAge other = Check.told("expect 1 0 0 0 0;expect 0 20 0 21 0;expect 2 1 0 1 0;");
+        canBe(other, 0, day, 9, 10, 0);
+        canBe(other, 1, day, 30, 30, 0);
+        canBe(other, 2, day, 29, 29, 0);
+        canBe(other, 3, day, NONE, NONE, 1);
         // Ten people and four births stand beside one another; each one moves by his own moves alone.
         EldestAge full = new EldestAge();
         for (int p = 0; p < 10; p++) {
@@ -893,6 +959,15 @@ public final class PromiseTest {
             int next = (int) ((long) seed * 1103515245L + 12345L);
             due("p34 young " + seed, young.later(seed, day, 1, 0), 1 + (chance(next) < 40 ? 0 : 1));
         }
+        // The YEAR's last DAY: a birthday then counts, who is born then LIVES then, who DIES then does not.
+        EldestAge edge = Check.told("law sum;one plain 49 359 0;one plain 50 359 1;one plain 50 358 2 died 50 359;one plain 51 0 3;");
+        for (int seed = 0; seed < 300; seed += 3) {
+            int stays = chance(seed) < 1 ? 0 : 1;
+            due("p34 edge " + seed, edge.later(seed, day, 1, 0), stays + 1);
+            due("p34 edge sum " + seed, edge.later(seed, day, 1, 1), stays);
+        }
+        EldestAge dies = Check.told("one plain 50 1 0 died 51 0;");
+        due("p34 who dies on the day behind it LIVES on the last of the DAYS", dies.later(1, day, 1, 0), 1);
         // Behind YEAR 99 there are none.
         due("p34 the last year", x.later(9, LAST, 40, 0), x.later(9, LAST, 1, 0));
         due("p34 a last day itself", x.later(9, Check.day(50, 359), 1, 1), x.later(9, Check.day(50, 0), 1, 1));
