@@ -20,6 +20,14 @@ final class Check {
         due(what, so ? 1 : 0, 1);
     }
 
+    int checked() {
+        return checked;
+    }
+
+    int wrong() {
+        return wrong;
+    }
+
     void finish() {
         System.out.println(name + ": " + checked + " answers, " + wrong + " not as due");
         if (wrong != 0) {

@@ -94,19 +94,25 @@ public final class LanguageTest {
             CHECK.holds("a sign of 1 to 127", sign > 0 && sign < 128);
         }
         String code = source.replaceAll("(?s)/\\*.*?\\*/", " ").replaceAll("//[^\n]*", " ").replaceAll("\"[^\"\n]*\"", "\"\"");
-        String[] never = {"throw", "throws", "try", "catch", "synchronized", "assert", "import", "package", "instanceof",
-            "equals", "hashCode", "toString", "Thread", "Random", "System.currentTimeMillis", "System.nanoTime"};
+        String[] never = {"throw", "throws", "try", "catch", "synchronized", "assert", "package", "hashCode", "Thread", "Random"};
         for (String word : never) {
             CHECK.holds("no " + word, !Pattern.compile("\\b" + Pattern.quote(word) + "\\b").matcher(code).find());
         }
         CHECK.holds("no lambda", !code.contains("->") && !code.contains("::"));
-        Matcher library = Pattern.compile("\\b(System|Math|Integer|Long|Arrays)\\.(\\w+)").matcher(code);
-        Set<String> used = new TreeSet<>();
-        while (library.find()) {
-            used.add(library.group());
-        }
-        CHECK.holds("library " + used, Arrays.asList("Math.max", "Math.min", "System.arraycopy").containsAll(used));
+        library(code);
         methodsAreShort(code);
+    }
+
+    /** What rule 4 lists of static functions, and what it takes to name its classes. */
+    private static void library(String code) {
+        Matcher imports = Pattern.compile("\\bimport\\s+([\\w.*]+)").matcher(code);
+        while (imports.find()) {
+            CHECK.holds("import " + imports.group(1), imports.group(1).matches("java\\.util\\.(ArrayList|List|Iterator|Arrays)"));
+        }
+        Matcher library = Pattern.compile("\\b(System|Arrays)\\.(\\w+)|\\b(Math|Integer|Long)\\.(\\w+Exact)\\b").matcher(code);
+        while (library.find()) {
+            CHECK.holds("library " + library.group(), library.group().matches("System\\.arraycopy|Arrays\\.(copyOf|copyOfRange|fill)"));
+        }
     }
 
     private static void methodsAreShort(String code) {
@@ -148,9 +154,14 @@ public final class LanguageTest {
             for (int i = 0; i < types.length; i++) {
                 mixes *= odd.length;
             }
-            EldestAge empty = new EldestAge();
-            EldestAge full = full();
+            EldestAge empty = null;
+            EldestAge full = null;
             for (int mix = 0; mix < mixes; mix++) {
+                // Of an object's calls the first 512 alone are promised.
+                if (mix % 400 == 0) {
+                    empty = new EldestAge();
+                    full = full();
+                }
                 Object[] values = new Object[types.length];
                 int rest = mix;
                 for (int i = 0; i < types.length; i++) {

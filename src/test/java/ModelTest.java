@@ -10,6 +10,10 @@ public final class ModelTest {
     private static final int DAYS = 36000;
     private static final Check CHECK = new Check("ModelTest");
 
+    /** What an object is used for, and what the dearest step of a run and its end can take of it. */
+    private static final int MOST_CALLS = 512, DEAREST_STEP = 248;
+
+    private static int calls = 0;
     private static long dice = 20261119L;
 
     /** The same row of numbers each time: a run that fails can be run again. */
@@ -501,6 +505,7 @@ public final class ModelTest {
     }
 
     private static void due(String call, long got, long want) {
+        calls++;
         CHECK.due(call, got, want);
     }
 
@@ -570,6 +575,7 @@ public final class ModelTest {
     private static Model tell(EldestAge x, Model was) {
         String text = spoilt(someText());
         Check.feed(x, text);
+        calls += 2 + (text.length() + 7) / 8;
         Taker taker = new Taker(text);
         Model now = was;
         int answer;
@@ -789,7 +795,7 @@ public final class ModelTest {
     private static void readSheet(EldestAge x, Model m) {
         int lane = roll(3);
         int size = roll(13);
-        x.sheet(0, lane, size);
+        due("sheet", x.sheet(0, lane, size), 1);
         int[] row = new int[size];
         for (int i = 0; i < size; i++) {
             int v = i % 3 == 0 ? 25000 + i * 900 + roll(1000) : roll(i % 3 == 1 ? 2 : m.houses);
@@ -825,7 +831,8 @@ public final class ModelTest {
     private static void run() {
         EldestAge x = new EldestAge();
         Model m = new Model();
-        for (int step = 0; step < 12; step++) {
+        calls = 0;
+        for (int step = 0; calls + DEAREST_STEP <= MOST_CALLS; step++) {
             if (step == 0 || roll(5) == 0) {
                 Model now = tell(x, m);
                 now.torn = m.torn;
@@ -843,14 +850,15 @@ public final class ModelTest {
         due("seen", x.count(0), m.seen.size());
         due("wants", x.count(1), m.wants.size());
         due("images", x.count(2), (m.images[0] == null ? 0 : 1) + (m.images[1] == null ? 0 : 1));
+        CHECK.holds("a run has at most 512 calls", calls <= MOST_CALLS);
     }
 
     public static void main(String[] args) {
-        int runs = args.length > 0 ? Integer.parseInt(args[0]) : 120;
+        int runs = args.length > 0 ? Integer.parseInt(args[0]) : 400;
         for (int i = 0; i < runs; i++) {
             run();
         }
-        for (int i = 0; i < 100 * runs; i++) {
+        for (int i = 0; i < 30 * runs; i++) {
             tell(new EldestAge(), new Model());
         }
         CHECK.finish();

@@ -937,9 +937,12 @@ public final class PromiseTest {
     }
 
     private static void later() {
-        EldestAge x = Check.told("one plain 10 0 0;one vain 40 0 1;");
+        EldestAge x = null;
         int day = Check.day(50, 17);
         for (int seed = -300; seed < 300; seed++) {
+            if (seed % 100 == 0) {
+                x = Check.told("one plain 10 0 0;one vain 40 0 1;");
+            }
             int next = (int) ((long) seed * 1103515245L + 12345L);
             int stay0 = chance(seed) < 40 ? 0 : 1;
             int stay1 = chance(next) < 10 ? 0 : 1;
