@@ -38,6 +38,32 @@ abstract class Bounds {
         return Check.day(year, day);
     }
 
+    /** Two streets are told alike: all that is asked of their days is answered alike. */
+    static void alike(String call, EldestAge x, EldestAge y) {
+        x.want(2, 49);
+        y.want(2, 49);
+        for (int d : new int[] {0, day(50, 0), LAST}) {
+            for (int house = 0; house < 4; house++) {
+                due(call + ": number", x.number(house, d), y.number(house, d));
+                due(call + ": changes", x.changes(house, d), y.changes(house, d));
+                due(call + ": descending", x.descending(d, house), y.descending(d, house));
+                due(call + ": round", x.round(d, house), y.round(d, house));
+                due(call + ": least", x.can(house, d, 0), y.can(house, d, 0));
+                due(call + ": greatest", x.can(house, d, 1), y.can(house, d, 1));
+            }
+            for (int n = 0; n < 2; n++) {
+                due(call + ": fetch", x.fetch(d, n > 0, 0), y.fetch(d, n > 0, 0));
+                due(call + ": at", x.at(n - 1, d), y.at(n - 1, d));
+                due(call + ": all", x.all(d, n), y.all(d, n));
+            }
+            due(call + ": twins", x.twins(d), y.twins(d));
+        }
+        for (int seed = 0; seed < 20; seed++) {
+            due(call + ": later " + seed, x.later(seed, day(50, 0), 2, 0), y.later(seed, day(50, 0), 2, 0));
+            due(call + ": later, summed " + seed, x.later(seed, day(50, 0), 2, 1), y.later(seed, day(50, 0), 2, 1));
+        }
+    }
+
     static String times(int n, String text) {
         return text.repeat(n);
     }

@@ -68,6 +68,26 @@ final class SheetBounds extends Bounds {
     }
 
     @Says("All is as IMAGE k")
+    static void nobodyIsLeftBehindAnImage() {
+        String few = "one plain 1 0 2;one aunt 20 0 1;";
+        EldestAge x = told(few);
+        x.keep(0);
+        for (int i = 0; i < 4; i++) {
+            x.bear(i, 0, i % 2);
+            x.move(0, 0, 3);
+            x.expect(0, 0, 360);
+        }
+        due("back to fewer", x.back(0), 2);
+        alike("back to fewer", x, told(few));
+        EldestAge y = new EldestAge();
+        y.keep(1);
+        y.bear(0, 0, 0);
+        y.expect(0, 0, 0);
+        due("back to none", y.back(1), 0);
+        alike("back to none", y, new EldestAge());
+    }
+
+    @Says("All is as IMAGE k")
     static void whatIsNoPartOfAnImage() {
         EldestAge x = told("one plain 0 0 0;");
         x.keep(0);

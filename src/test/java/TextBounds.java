@@ -358,6 +358,19 @@ final class TextBounds extends Bounds {
         due("eldest", x.rule(1), 0);
     }
 
+    @Says("in place of what there was")
+    static void nobodyIsLeft() {
+        String few = "one plain 1 0 2;one aunt 20 0 1;";
+        String many = "law sum;" + times(7, "one plain 0 0 2;") + times(5, "move 9 0 1 0;") + times(2, "expect 0 1 0 9 0;");
+        EldestAge x = lines(many, 15);
+        Check.feed(x, few);
+        due("fewer", x.street(), 2);
+        alike("fewer", x, lines(few, 2));
+        EldestAge y = lines(many, 15);
+        due("none", y.street(), 0);
+        alike("none", y, new EldestAge());
+    }
+
     @Says("nothing is SEEN, WANTED; IMAGES are gone; SHEETS stay.")
     static void whatGoesByAText() {
         EldestAge x = full();
